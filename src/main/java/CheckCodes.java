@@ -509,11 +509,11 @@ public final class CheckCodes {
             return TOLD;
           }
           answer = MENDED;
-          int words = lane.columns.length;
-          if (bit < words) {
+          int laneBits = lane.columns.length;
+          if (bit < laneBits) {
             turn.wordFlips |= 1L << (bit * lanes.length + i);
           } else {
-            turn.checkFlips |= 1 << (base + bit - words);
+            turn.checkFlips |= 1 << (base + bit - laneBits);
           }
         }
         base += lane.checkBits;
