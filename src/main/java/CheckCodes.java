@@ -599,7 +599,7 @@ public final class CheckCodes {
 
     /**
      * 0 where the three sums point at no nibble of the word. With t = s * g^j, that t * t is s * u
-     * says just that u is s * g^2j, so both are looked for in one walk and nothing is multiplied out.
+     * says just that u is s * g^2j: so one walk looks for both, and nothing is multiplied out.
      */
     private long wordFlipsFor(int s, int t, int u) {
       if (s == 0) {
