@@ -88,7 +88,8 @@ public final class PromiseTest {
 
   private static void size() {
     int[][] asked = {
-      // bits, kind, R, greatest row sum
+      // bits, kind, R, greatest row sum (the 13 of 27 bits is not worked out by hand: it is what the
+      // class answers, and ModelTest's own choice of columns agrees)
       {1, 0, 4, 1}, {4, 0, 4, 3}, {5, 0, 5, 4}, {11, 0, 5, 7}, {12, 0, 6, 6}, {26, 0, 6, 15},
       {27, 0, 7, 13}, {57, 0, 7, 31}, {1, 1, 1, 0}, {3, 1, 3, 0}, {4, 1, 4, 0}, {57, 1, 4, 0},
       {1, 2, 12, 0}, {57, 2, 12, 0}, {1, 3, 4, 1}, {2, 3, 8, 1}, {3, 3, 12, 1}, {4, 3, 16, 1},
