@@ -248,20 +248,23 @@ public final class CheckCodes {
   }
 
   private int answerToPair(int a, int b) {
-    return answerTo(wordPart(a) | wordPart(b), checkPart(a) | checkPart(b));
+    int syndrome = a == b ? code.markOf(a) : code.markOf(a) ^ code.markOf(b);
+    return answerTo(syndrome, wordPart(a) | wordPart(b), checkPart(a) | checkPart(b));
   }
 
   /** The pattern has at most six bits, so that it fits a long at each bit of a word. */
   private int answerToPattern(int pattern, int first) {
     if (first >= wordBits) {
-      return answerTo(0L, pattern << (first - wordBits));
+      int checkFlips = pattern << (first - wordBits);
+      return answerTo(checkFlips, 0L, checkFlips);
     }
     long flips = (long) pattern << first;
-    return answerTo(flips & wordMask, (int) (flips >>> wordBits));
+    int checkFlips = (int) (flips >>> wordBits);
+    return answerTo(code.sumOf(flips) ^ checkFlips, flips & wordMask, checkFlips);
   }
 
-  private int answerTo(long wordFlips, int checkFlips) {
-    int answer = code.judge(code.sumOf(wordFlips) ^ checkFlips, turn);
+  private int answerTo(int syndrome, long wordFlips, int checkFlips) {
+    int answer = code.judge(syndrome, turn);
     boolean undone = turn.wordFlips == wordFlips && turn.checkFlips == checkFlips;
     return answer == MENDED && !undone ? MENDED_TO_ANOTHER : answer;
   }
@@ -273,10 +276,16 @@ public final class CheckCodes {
     }
     answersCounted = true;
     for (int a = 0; a < storedBits; a++) {
-      answerCounts[answerToPair(a, a)]++;
+      addToCount(answerToPair(a, a));
       for (int b = a + 1; b < storedBits; b++) {
-        answerCounts[ANSWERS + answerToPair(a, b)]++;
+        addToCount(ANSWERS + answerToPair(a, b));
       }
+    }
+  }
+
+  private void addToCount(int place) {
+    if (place >= 0 && place < answerCounts.length) {
+      answerCounts[place]++;
     }
   }
 
@@ -340,6 +349,14 @@ public final class CheckCodes {
 
     int columnOf(int bit) {
       return bit >= 0 && bit < marks.length ? marks[bit] : 0;
+    }
+
+    /** The bits of the check that a flip of a bit of the stored one turns. */
+    final int markOf(int storedBit) {
+      if (storedBit >= 0 && storedBit < marks.length) {
+        return marks[storedBit];
+      }
+      return 1 << (storedBit - wordBits);
     }
 
     int greatestRowSum() {
@@ -441,6 +458,10 @@ public final class CheckCodes {
       }
     }
 
+    int columnAt(int bit) {
+      return bit >= 0 && bit < columns.length ? columns[bit] : 0;
+    }
+
     int greatestSum() {
       return greatestSumWith(rowSums, 0);
     }
@@ -471,9 +492,8 @@ public final class CheckCodes {
       int[] marks = new int[wordBits];
       int base = 0;
       for (int i = 0; i < lanes.length; i++) {
-        int[] columns = lanes[i].columns;
-        for (int bit = 0; bit < columns.length; bit++) {
-          marks[bit * lanes.length + i] = columns[bit] << base;
+        for (int k = i; k < marks.length; k += lanes.length) {
+          marks[k] = lanes[i].columnAt(k / lanes.length) << base;
         }
         base += lanes[i].checkBits;
       }
@@ -481,10 +501,10 @@ public final class CheckCodes {
     }
 
     int columnOf(int bit) {
-      if (bit < 0 || bit >= wordBits || lanes.length == 0) {
+      if (bit < 0 || lanes.length == 0) {
         return 0;
       }
-      return lanes[bit % lanes.length].columns[bit / lanes.length];
+      return lanes[bit % lanes.length].columnAt(bit / lanes.length);
     }
 
     int greatestRowSum() {
