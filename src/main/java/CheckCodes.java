@@ -199,20 +199,20 @@ public final class CheckCodes {
   private static Code codeOf(int kind, int wordBits) {
     switch (kind) {
       case SUMS:
-        return new SumCode(wordBits, lanesOf(wordBits, 1));
+        return new SumCode(wordBits, new Lane[] {new Lane(wordBits)});
       case PARITIES:
         return new ParityCode(wordBits, Math.min(wordBits, ParityCode.MOST_CHECK_BITS));
       case NIBBLES:
         return new NibbleCode(wordBits);
       default:
-        return new SumCode(wordBits, lanesOf(wordBits, LANES_OF_KIND_3));
+        return new SumCode(wordBits, lanesOfKind3(wordBits));
     }
   }
 
-  private static Lane[] lanesOf(int wordBits, int count) {
-    Lane[] lanes = new Lane[count];
-    for (int i = 0; i < count; i++) {
-      lanes[i] = new Lane((wordBits - i + count - 1) / count);
+  private static Lane[] lanesOfKind3(int wordBits) {
+    Lane[] lanes = new Lane[LANES_OF_KIND_3];
+    for (int i = 0; i < lanes.length; i++) {
+      lanes[i] = new Lane((wordBits + LANES_OF_KIND_3 - 1 - i) / LANES_OF_KIND_3);
     }
     return lanes;
   }
